@@ -8,6 +8,7 @@ public final class ActTest {
         taken();
         changes();
         eldestChange();
+        eldestOfManyClasses();
         whatEndsChanges();
         image();
         imageOfSpaces();
@@ -178,6 +179,33 @@ public final class ActTest {
         x.set(0, 0, 1);
         x.set(0, 0, 2);
         changesAre(x, 12, 0);
+    }
+
+    /** Each CHANGE goes back to its own CLASS, by its own value, after the eldest have gone. */
+    private static void eldestOfManyClasses() {
+        BlownSpaces x = new BlownSpaces();
+        int[] ones = {0, 1, 2, 3, 4, 5, 6, 7, 7, 6, 5, 4, 3, 2, 1, 0};
+        int[] whats = {0, 1, 0, 1, 0, 1, 0, 1, 0, 1, 0, 1, 0, 1, 0, 1};
+        int[] values = {1, 9, 2, 8, 3, 7, 4, 6, 5, 5, 4, 4, 3, 3, 2, 2};
+        for (int k = 0; k < 8; k++) {
+            Due.read(x, "a");
+        }
+        for (int k = 0; k < 16; k++) {
+            Due.is("set", x.set(ones[k], whats[k], values[k]), 0);
+        }
+        for (int k = 15; k >= 4; k--) {
+            Due.is("as it was set", x.of(ones[k], whats[k]), values[k]);
+            Due.is("undo", x.undo(), k - 4);
+            Due.is("as it was ahead", x.of(ones[k], whats[k]), 0);
+        }
+        Due.is("undo", x.undo(), STATE);
+        for (int k = 0; k < 16; k++) {
+            Due.is("what remains", x.of(ones[k], whats[k]), k < 4 ? values[k] : 0);
+        }
+        for (int k = 4; k < 16; k++) {
+            Due.is("redo", x.redo(), 15 - k);
+            Due.is("as it was set", x.of(ones[k], whats[k]), values[k]);
+        }
     }
 
     /** A new object with a CHANGE that can be UNDONE, and one that can be DONE AGAIN. */

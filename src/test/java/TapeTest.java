@@ -163,6 +163,9 @@ public final class TapeTest {
         faultIs(x, "a^4b", 3);
         faultIs(x, "3a^4+a^3b^1p", 11);
         faultIs(x, "3^2", 1);
+        faultIs(x, "/", 0);
+        faultIs(x, "1:", 1);
+        faultIs(x, "1/a", 1);
         faultIs(x, "3*a", 1);
         faultIs(x, "a;", 1);
         faultIs(x, "a+b-~", 4);
@@ -258,6 +261,13 @@ public final class TapeTest {
         actFaultIs(x, "sum", 3);
         actFaultIs(x, "sum0 0", 3);
         actFaultIs(x, "sum;", 3);
+        actFaultIs(x, "sumz 0 0", 0);
+        actFaultIs(x, "suma 0 0", 0);
+        actFaultIs(x, "sum{0 0", 3);
+        actFaultIs(x, "sum`0 0", 3);
+        actFaultIs(x, "sum 0 0;part{", 12);
+        actFaultIs(x, "sum / 0", 4);
+        actFaultIs(x, "sum : 0", 4);
         actFaultIs(x, "sum ", 4);
         actFaultIs(x, "sum  0 0", 4);
         actFaultIs(x, "sum a 0", 4);
