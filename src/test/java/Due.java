@@ -2,8 +2,18 @@
 final class Due {
     private static int right = 0;
     private static int wrong = 0;
+    private static String test = "";
 
     private Due() {
+    }
+
+    /** What the test is called that goes on from here: it is told with what is wrong. */
+    static void test(String name) {
+        test = name.isEmpty() ? "" : name + ": ";
+    }
+
+    static int looked() {
+        return right + wrong;
     }
 
     static void is(String call, long got, long want) {
@@ -11,8 +21,22 @@ final class Due {
             right++;
         } else {
             wrong++;
-            System.out.println(call + " answered " + got + ", due is " + want);
+            System.out.println(test + call + " answered " + got + ", due is " + want);
         }
+    }
+
+    static void yes(String what, boolean holds) {
+        is(what, holds ? 1 : 0, 1);
+    }
+
+    static void same(String what, String got, String want) {
+        int at = 0;
+        while (at < got.length() && at < want.length() && got.charAt(at) == want.charAt(at)) {
+            at++;
+        }
+        int from = Math.max(0, at - 40);
+        yes(what + " .. " + got.substring(from, Math.min(got.length(), at + 40)) + " .. due is .. "
+            + want.substring(from, Math.min(want.length(), at + 40)), got.equals(want));
     }
 
     /** Feeds a text to THE TAPE, which is empty before. */
@@ -56,8 +80,8 @@ final class Due {
     }
 
     /** Ends the program, with 1 if anything was not as is due. */
-    static void end(String test) {
-        System.out.println(test + ": " + right + " answers as due, " + wrong + " not");
+    static void end(String name) {
+        System.out.println(name + ": " + right + " answers as due, " + wrong + " not");
         System.exit(wrong == 0 && right > 0 ? 0 : 1);
     }
 }
