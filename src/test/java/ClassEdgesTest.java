@@ -239,6 +239,27 @@ public final class ClassEdgesTest {
         Due.is("the least stands behind", x.of(1, 4), 1);
     }
 
+    @Says(promise = 12, value = "at how many TERMS its NUMBERS aren't 0 (2), the greatest SIZE of these (3; NOT), the"
+        + " least (4; NOT)")
+    static void p12_whereTheTermsAreTheMost() {
+        BlownSpaces x = new BlownSpaces();
+        x.product(3, 1, 1);
+        x.blow();
+        x.blow();
+        x.blow();
+        Due.read(x, "a^5+abcpq+pqr+r");
+        Due.is("terms", x.of(0, 2), 4);
+        Due.is("greatest", x.of(0, 3), 5);
+        Due.is("least", x.of(0, 4), 1);
+        x.tell(0, 0, 1);
+        Due.is("terms", x.of(0, 2), 5);
+        Due.is("least", x.of(0, 4), 0);
+        Due.read(x, "0");
+        Due.is("terms", x.of(1, 2), 0);
+        Due.is("greatest", x.of(1, 3), NOT);
+        Due.is("least", x.of(1, 4), NOT);
+    }
+
     @Says(promise = 12, value = "at how many TERMS its NUMBERS aren't 0 (2)")
     static void p12_countsNumbersNotWhatIsTold() {
         BlownSpaces x = plane("2a^2+3a+4");

@@ -1,4 +1,5 @@
 import java.util.ArrayList;
+import java.util.Arrays;
 import java.util.List;
 
 /** Promises 23 to 26: each sentence that names a boundary case. */
@@ -89,7 +90,7 @@ public final class CurveEdgesTest {
         long[] touching = {1, 6, 36, 184, 816, 3264};
         for (int pairs = 0; pairs <= 10; pairs++) {
             long[] told = new long[2 * pairs];
-            java.util.Arrays.fill(told, 2L);
+            Arrays.fill(told, 2L);
             x = conics();
             Due.list(x, 0, 0, told);
             for (int i = 0; i <= 5; i++) {

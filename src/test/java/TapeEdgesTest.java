@@ -391,7 +391,7 @@ public final class TapeEdgesTest {
     static void p29_anyNumberOfMembersUpTo80Bytes() {
         BlownSpaces x = new BlownSpaces();
         isRead("-a" + times("-a", 39), "-40a", x);
-        isRead("1" + times("+1", 39) + "", "40", x);
+        isRead("1" + times("+1", 39), "40", x);
         isRead("1a" + times("+1", 39), "a+39", x);
         isFault("a" + times("+a", 39) + "+", 80, x);
         isFault("a" + times("+a", 39) + "a", 79, x);
@@ -430,22 +430,20 @@ public final class TapeEdgesTest {
             actBytesBehind(word + " 0 0", "", ";", word.length() + 4);
             actBytesBehind(word + " 0 0;", "", "", word.length() + 5);
             actBytesBehind("sum 0 0;" + word, "", " ", 8);
-            actBytesBehind("sum 0 0;" + word + " 1 ", "", "", 8 + word.length() + 3, word.startsWith("p"));
+            figuresBehind("sum 0 0;" + word + " 1 ", word.startsWith("p") ? 6 : 1);
         }
     }
 
-    /** Behind the last blank each figure is right; by power and part it is k, else a CLASS: 0 and 1 are there by then. */
-    private static void actBytesBehind(String beginning, String right, String early, int ofLetters, boolean isSize) {
+    /** Behind the last blank any figure stands right, but an ACT can be with those alone that are most at most. */
+    private static void figuresBehind(String beginning, int most) {
         for (char sign = 32; sign <= 126; sign++) {
             BlownSpaces x = product(2, 0, 0, 0, "a+1");
-            boolean figure = FIGURES.indexOf(sign) >= 0;
-            boolean canBe = sign - '0' <= (isSize ? 6 : 1);
-            int want = figure ? canBe ? 2 : -201 : -100 - ofLetters;
+            boolean canBe = sign >= '0' && sign <= '0' + most;
+            int want = FIGURES.indexOf(sign) < 0 ? -100 - beginning.length() : canBe ? 2 : -201;
             Due.is("acts " + beginning + sign, Due.acts(x, beginning + sign), want);
             Due.is("tape", x.count(3), 0);
-            Due.is("classes", x.count(0), want == 2 ? 3 : 1);
+            Due.is("classes", x.count(0), canBe ? 3 : 1);
         }
-        Due.is("nothing else", right.length() + early.length(), 0);
     }
 
     private static void isActFault(String text, int fault) {
@@ -608,6 +606,18 @@ public final class TapeEdgesTest {
         for (int one = 2; one <= 4; one++) {
             Due.written(x, one, "0");
         }
+    }
+
+    @Says(promise = 30, value = "sum i j; times i j (PRODUCT); minus i j (the one less the other); power i k")
+    static void p30_whereTheTermsAreTheMost() {
+        BlownSpaces x = product(3, 1, 1, 3, "a^5+r+2", "a+r^5-1");
+        Due.is("acts", Due.acts(x, "sum 0 1;minus 0 1;times 0 1;power 0 2;part 0 5;part 1 0"), 6);
+        Due.written(x, 2, "a^5+a+r^5+r+1");
+        Due.written(x, 3, "a^5-a-r^5+r+3");
+        Due.written(x, 4, "-a^5+ar+2a+2r^5-r-2");
+        Due.written(x, 5, "4a^5+r^2+4r+4");
+        Due.written(x, 6, "a^5");
+        Due.written(x, 7, "-1");
     }
 
     /** ACTS that can't be: none of them is, and all but THE TAPE is as before. */
