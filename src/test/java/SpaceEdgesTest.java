@@ -76,6 +76,19 @@ public final class SpaceEdgesTest {
         Due.is("tape", x.wipe(), 0);
     }
 
+    @Says(promise = 1, value = "As told at first; no CLASSES.")
+    static void p01_eachObjectIsByItself() {
+        BlownSpaces first = new BlownSpaces();
+        Rooms.conics(first);
+        BlownSpaces second = new BlownSpaces();
+        Rooms.plane(second);
+        Due.same("a third is as told at first", Shown.by(new BlownSpaces()), Shown.by(new BlownSpaces()));
+        spaceIs(new BlownSpaces(), 0, 2, 1, 3, 0, 3);
+        BlownSpaces alone = new BlownSpaces();
+        Rooms.conics(alone);
+        Due.same("the first is as if it were alone", Shown.by(first), Shown.by(alone));
+    }
+
     @Says(promise = 1, value = "An object is used for at most 512 calls after it has been made")
     static void p01_theCall512AnswersAsTheFirstOnes() {
         BlownSpaces x = new BlownSpaces();
