@@ -123,6 +123,17 @@ public final class CurveEdgesTest {
             Due.list(x, 0, 1, 2, 2, 2, 2, 2, v);
             Due.is("class " + v + " of the last", x.through(2, 0, 0), GONE);
         }
+        for (int list = 0; list <= 2; list++) {
+            for (int j = 0; j <= 4; j++) {
+                BlownSpaces x = conics();
+                Due.list(x, list, 0, 2, 100);
+                Due.is("class 100 in LIST " + list + ", j " + j, x.through(4 - j, j, list), GONE);
+                Due.list(x, list, 0, -1, 2);
+                Due.is("degree -1 in LIST " + list + ", j " + j, x.through(4 - j, j, list), GONE);
+                Due.list(x, (list + 1) % 3, 0, 1, 0);
+                Due.is("a line in another LIST, j " + j, x.through(4 - j, j, (list + 1) % 3), new long[] {2, 4, 4, 2, 1}[j]);
+            }
+        }
         BlownSpaces x = conics();
         Due.list(x, 0, 1, 0, 0);
         Due.is("0 and 0", x.through(4, 0, 0), 0);

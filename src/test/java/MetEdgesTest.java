@@ -131,6 +131,42 @@ public final class MetEdgesTest {
             x -> x.through(2, 2, 0), x -> x.through(5, 0, -1), x -> x.through(0, 5, -1), x -> x.judge(1), x -> x.lots(3, 5, 0),
             x -> x.self(1, 0), x -> x.of(1, 2), x -> x.write(1)};
         inAnyOrder(conics, others);
+        Twins.Way curved = x -> {
+            x.curved();
+            x.curve(3, 1);
+            x.curve(2, 0);
+            read(x, "2a^3+3au^2-u^3+av^2-5", "4a-u-v+a^2+3");
+            Due.list(x, 0, 0);
+            Due.list(x, 1, 1, 8, 4);
+            Due.list(x, 2, 0, 1, 0, 1);
+        };
+        inAnyOrder(curved, ofAnySpace());
+        Twins.Way points = x -> {
+            x.product(1, 1, 0);
+            x.blow();
+            x.blow();
+            read(x, "2ab+3p^2-q^2+a+5", "4a-b-p+2q+3");
+            Due.list(x, 0, 0);
+            Due.list(x, 1, 1, 8, 4);
+            Due.list(x, 2, 0, 1, 0);
+        };
+        inAnyOrder(points, ofAnySpace());
+        Twins.Way solid = x -> {
+            x.product(3, 0, 0);
+            read(x, "2a", "3a");
+            Due.list(x, 0, 0);
+            Due.list(x, 1, 1, 0);
+            Due.list(x, 2, 0, 1, 0);
+        };
+        inAnyOrder(solid, ofAnySpace());
+    }
+
+    private static Twins.Call[] ofAnySpace() {
+        return new Twins.Call[] {x -> x.met(0), x -> x.met(1), x -> x.meets(0, 1), x -> x.meetsAll(0), x -> x.meetsAll(2),
+            x -> x.self(1, 0), x -> x.self(1, 3), x -> x.like(0, 1), x -> x.like(1, 1), x -> x.chern(1), x -> x.cutOut(0, 1),
+            x -> x.cutOut(0, 2), x -> x.cutOut(1, 1), x -> x.cutOut(1, 2), x -> x.cutOut(2, 2), x -> x.cutOut(2, 3),
+            x -> x.fits(0, 0, 3L, 0), x -> x.fits(0, 1, -12L, 1), x -> x.judge(1), x -> x.lots(3, 5, 0), x -> x.lots(9, 5, 1),
+            x -> x.of(1, 2), x -> x.of(1, 3), x -> x.number(1, 1), x -> x.space(3), x -> x.worth(3), x -> x.write(1)};
     }
 
     private static void inAnyOrder(Twins.Way way, Twins.Call[] asked) {
@@ -231,6 +267,11 @@ public final class MetEdgesTest {
         Due.is("curved", x.meetsAll(0), 0);
         x.conics();
         Due.is("conics", x.meetsAll(0), 0);
+        x = product(2, 0, 0, "a", "3a");
+        Due.is("two of them", x.meets(0, 1), 3);
+        Due.list(x, 0, 0);
+        Due.is("of none, behind two", x.meetsAll(0), 0);
+        Due.is("SELF 0, behind two", x.self(1, 0), 0);
     }
 
     @Says(promise = 18, value = {"GONE: a number is of no CLASS.",

@@ -176,6 +176,14 @@ public final class SpaceEdgesTest {
         Twins.keepEverywhere("1 and 5", x -> x.product(1, 5, 0), BAD);
         Twins.keepEverywhere("1, 1 and 4", x -> x.product(1, 1, 4), BAD);
         Twins.keepEverywhere("together they wrap", x -> x.product(2, MOST, MOST), BAD);
+        for (int b = 0; b <= 5; b++) {
+            for (int c = 0; c <= 5; c++) {
+                BlownSpaces x = new BlownSpaces();
+                Due.is("a most, " + b + ", " + c, x.product(MOST, b, c), BAD);
+                Due.is("a most less 1, " + b + ", " + c, x.product(MOST - 1, b, c), BAD);
+                Due.is("n stays", x.space(1), 2);
+            }
+        }
     }
 
     @Says(promise = 2, value = {"THE SPACE is a PRODUCT of FACTORS with these DIMENSIONS (b 0: of one, c does not matter"
